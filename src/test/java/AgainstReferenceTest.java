@@ -95,6 +95,8 @@ public final class AgainstReferenceTest {
             int r = register();
             int mode = mode();
             due("whole " + r + " " + mode, real.whole(r, mode), model.whole(r, mode));
+        } else if (what < 43) {
+            cancel();
         } else if (what < 48) {
             int x = register();
             int y = register();
@@ -144,6 +146,23 @@ public final class AgainstReferenceTest {
             due("fma" + args, real.fma(d, x, y, z, mode), model.fma(d, x, y, z, mode));
         }
         compareState(d);
+    }
+
+    /** What rounding left off, by sums that cancel nearly all their bits; and roots of squares. */
+    private void cancel() {
+        int x = random.nextInt(8);
+        int y = random.nextInt(8);
+        int z = random.nextInt(8);
+        int mode = mode();
+        String args = " " + x + " " + y + " " + z + " " + mode;
+        due("mul z, x, y:" + args, real.mul(z, x, y, mode), model.mul(z, x, y, mode));
+        if (random.nextInt(3) == 0) {
+            due("sqrt z, z", real.sqrt(z, z, mode), model.sqrt(z, z, mode));
+        } else {
+            due("negate z, z", real.negate(z, z, mode), model.negate(z, z, mode));
+            due("fma z, x, y, z", real.fma(z, x, y, z, mode), model.fma(z, x, y, z, mode));
+        }
+        compareState(z);
     }
 
     private void compareState(int r) {
