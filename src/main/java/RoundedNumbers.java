@@ -37,6 +37,8 @@ public final class RoundedNumbers {
 
     // Wide enough for every exact sum and product: the lowest bit of a product weighs 2^-586 or
     // more, and the highest of a sum of products less than 2^401; what is above is for the sign.
+    // The highest bit of what is rounded weighs 2^-402 or more, and rounding looks at most 93 bits
+    // below it, so that no weight ever lies outside the row.
     private static final int EXACT_LIMBS = 33;
     private static final int FRACTION_LIMBS = 19;
     private static final int LOWEST_WEIGHT = -FRACTION_LIMBS * LIMB_BITS;
