@@ -3,8 +3,8 @@ import java.util.Random;
 /** Random runs of calls, from a fixed seed, with every answer and state held against Reference. */
 public final class AgainstReferenceTest {
     private static final int RUNS = 12000;
-    // An object may be used for 512 calls; one step of a run makes at most 100 of them.
-    private static final int CALLS = 512 - 100;
+    // An object may be used for 512 calls; one step of a run makes fewer than 110 of them.
+    private static final int CALLS = 512 - 110;
     private static final int MOST_SHOWN = 20;
 
     private final Random random = new Random(20261115L);

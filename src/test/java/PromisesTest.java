@@ -1,19 +1,5 @@
-/**
- * Each promise of the document by hand: ordinary inputs, the edges that it names, wrong inputs.
- * A register is told as text: its sign, the bits of m, an 'e' and its exponent, as in "+101e3".
- */
-public final class PromisesTest {
-    private static final int NEAREST = 0;
-    private static final int TO_ZERO = 1;
-    private static final int UP = 2;
-    private static final int DOWN = 3;
-    private static final int AWAY = 4;
-    private static final int[] NO_REGISTERS = {-1, 8, Integer.MIN_VALUE, Integer.MAX_VALUE};
-    private static final int[] NO_MODES = {-1, 5, Integer.MIN_VALUE, Integer.MAX_VALUE};
-
-    private static int wrong = 0;
-    private static String promise = "";
-
+/** Each promise of the document by hand: ordinary inputs, the edges that it names, wrong inputs. */
+public final class PromisesTest extends Checks {
     public static void main(String[] args) {
         newObject();
         setPrec();
@@ -36,54 +22,7 @@ public final class PromisesTest {
         mantBit();
         whole();
         wholeAtTheEnds();
-        System.out.println(wrong == 0 ? "all promises hold" : wrong + " answers are not as due");
-        if (wrong != 0) {
-            System.exit(1);
-        }
-    }
-
-    private static void due(String what, Object got, Object want) {
-        if (!got.equals(want)) {
-            wrong++;
-            System.out.println(promise + ": " + what + " gave " + got + ", due is " + want);
-        }
-    }
-
-    private static void stored(RoundedNumbers x, int r, String want) {
-        due("register " + r, text(x, r), want);
-    }
-
-    private static String text(RoundedNumbers x, int r) {
-        String sign = x.signOf(r) > 0 ? "+" : "-";
-        switch (x.kindOf(r)) {
-            case 0:
-                return "NAN";
-            case 1:
-                return sign + "INFINITE";
-            case 2:
-                return sign + "ZERO";
-            default:
-                StringBuilder bits = new StringBuilder(sign);
-                int bit = x.mantBit(r, 0);
-                for (int i = 1; bit >= 0; i++) {
-                    bits.append(bit);
-                    bit = x.mantBit(r, i);
-                }
-                return bits.append('e').append(x.expOf(r)).toString();
-        }
-    }
-
-    private static int precisionOf(RoundedNumbers x, int r) {
-        x.loadInt(r, 1, NEAREST);
-        return text(x, r).length() - "+e1".length();
-    }
-
-    private static String ones(int count) {
-        return "1".repeat(count);
-    }
-
-    private static String oneAndZeros(int zeros) {
-        return "1" + "0".repeat(zeros);
+        end();
     }
 
     /** Registers: 0 NAN, 1 +INFINITE, 2 -INFINITE, 3 +ZERO, 4 -ZERO, 5 +3, 6 -3, 7 free. */
@@ -99,7 +38,7 @@ public final class PromisesTest {
     }
 
     private static void newObject() {
-        promise = "promise 1";
+        says("promise 1");
         RoundedNumbers x = new RoundedNumbers(5);
         for (int r = 0; r < 8; r++) {
             stored(x, r, "NAN");
@@ -113,7 +52,7 @@ public final class PromisesTest {
     }
 
     private static void setPrec() {
-        promise = "promise 2";
+        says("promise 2");
         RoundedNumbers x = new RoundedNumbers(4);
         x.loadInt(2, 13, NEAREST);
         x.loadInt(3, 13, NEAREST);
@@ -138,19 +77,18 @@ public final class PromisesTest {
     /** Loads v * 2^shift and, mirrored, -v * 2^shift, in the modes 0 to 4. */
     private static void rounds(int bits, long v, int shift, String sizes, int... orders) {
         String[] want = sizes.split(" ");
-        int[] mirror = {NEAREST, TO_ZERO, DOWN, UP, AWAY};
         for (int mode = 0; mode < 5; mode++) {
             RoundedNumbers x = new RoundedNumbers(bits);
             String what = v + " * 2^" + shift + " in mode " + mode;
             due("order of " + what, x.loadScaled(0, v, shift, mode), orders[mode]);
             stored(x, 0, "+" + want[mode]);
-            due("order of -" + what, x.loadScaled(0, -v, shift, mode), -orders[mirror[mode]]);
-            stored(x, 0, "-" + want[mirror[mode]]);
+            due("order of -" + what, x.loadScaled(0, -v, shift, mode), -orders[MIRRORED[mode]]);
+            stored(x, 0, "-" + want[MIRRORED[mode]]);
         }
     }
 
     private static void loadInt() {
-        promise = "promise 3";
+        says("promise 3");
         RoundedNumbers x = new RoundedNumbers(3);
         for (int mode = 0; mode < 5; mode++) {
             due("loadInt of 0", x.loadInt(0, 0, mode), 0);
@@ -183,7 +121,7 @@ public final class PromisesTest {
     }
 
     private static void loadScaled() {
-        promise = "promise 4";
+        says("promise 4");
         rounds(3, 9, 0, "100e4 100e4 101e4 100e4 101e4", -1, -1, 1, -1, 1);
         rounds(3, 11, -9, "110e-5 101e-5 110e-5 101e-5 110e-5", 1, -1, 1, -1, 1);
         rounds(3, 31, 0, "100e6 111e5 100e6 111e5 100e6", 1, -1, 1, -1, 1);
@@ -222,7 +160,7 @@ public final class PromisesTest {
     }
 
     private static void roundingBeyondTheExponents() {
-        promise = "terms, promise 4";
+        says("terms, promise 4");
         rounds(3, 7, 197, "111e200 111e200 111e200 111e200 111e200", 0, 0, 0, 0, 0);
         rounds(3, 1, 200, "INFINITE 111e200 INFINITE 111e200 INFINITE", 1, -1, 1, -1, 1);
         rounds(3, 29, 195, "111e200 111e200 INFINITE 111e200 INFINITE", -1, -1, 1, -1, 1);
@@ -246,7 +184,7 @@ public final class PromisesTest {
     }
 
     private static void copy() {
-        promise = "promise 5";
+        says("promise 5");
         RoundedNumbers x = withAllKinds(8);
         String[] plain = {"NAN", "+INFINITE", "-INFINITE", "+ZERO", "-ZERO"};
         for (int r = 0; r < plain.length; r++) {
@@ -275,7 +213,7 @@ public final class PromisesTest {
     }
 
     private static void negate() {
-        promise = "promise 6";
+        says("promise 6");
         RoundedNumbers x = withAllKinds(8);
         String[] turned = {"NAN", "-INFINITE", "+INFINITE", "-ZERO", "+ZERO", "-11000000e2", "+11000000e2"};
         for (int r = 0; r < turned.length; r++) {
@@ -303,7 +241,7 @@ public final class PromisesTest {
     }
 
     private static void add() {
-        promise = "promise 7";
+        says("promise 7");
         RoundedNumbers x = new RoundedNumbers(4);
         x.loadInt(0, 12, NEAREST);
         x.loadInt(1, 5, NEAREST);
@@ -348,7 +286,7 @@ public final class PromisesTest {
     }
 
     private static void addOfPlainOnes() {
-        promise = "promise 7";
+        says("promise 7");
         RoundedNumbers x = withAllKinds(3);
         String[] rows = {
             "NAN NAN NAN NAN NAN NAN NAN",
@@ -372,7 +310,7 @@ public final class PromisesTest {
     }
 
     private static void sub() {
-        promise = "promise 8";
+        says("promise 8");
         RoundedNumbers x = withAllKinds(3);
         String[] rows = {
             "NAN NAN NAN NAN NAN NAN NAN",
@@ -421,7 +359,7 @@ public final class PromisesTest {
     }
 
     private static void mul() {
-        promise = "promise 9";
+        says("promise 9");
         RoundedNumbers x = withAllKinds(3);
         String[] rows = {
             "NAN NAN NAN NAN NAN NAN NAN",
@@ -474,7 +412,7 @@ public final class PromisesTest {
     }
 
     private static void div() {
-        promise = "promise 10";
+        says("promise 10");
         RoundedNumbers x = withAllKinds(3);
         String[] rows = {
             "NAN NAN NAN NAN NAN NAN NAN",
@@ -523,7 +461,7 @@ public final class PromisesTest {
     }
 
     private static void sqrt() {
-        promise = "promise 11";
+        says("promise 11");
         RoundedNumbers x = withAllKinds(3);
         String[] want = {"NAN", "+INFINITE", "NAN", "+ZERO", "-ZERO", "+111e1", "NAN"};
         for (int r = 0; r < 7; r++) {
@@ -566,7 +504,7 @@ public final class PromisesTest {
     }
 
     private static void fma() {
-        promise = "promise 12";
+        says("promise 12");
         fmaOfPlainOnes();
         RoundedNumbers x = new RoundedNumbers(4);
         x.loadInt(0, 13, NEAREST);
@@ -630,7 +568,7 @@ public final class PromisesTest {
     }
 
     private static void cmp() {
-        promise = "promise 13";
+        says("promise 13");
         RoundedNumbers x = withAllKinds(3);
         int[][] rows = {
             {2, 2, 2, 2, 2, 2, 2},
@@ -666,7 +604,7 @@ public final class PromisesTest {
     }
 
     private static void kindOf() {
-        promise = "promise 14";
+        says("promise 14");
         RoundedNumbers x = withAllKinds(3);
         int[] want = {0, 1, 1, 2, 2, 3, 3};
         for (int r = 0; r < 7; r++) {
@@ -678,7 +616,7 @@ public final class PromisesTest {
     }
 
     private static void signOf() {
-        promise = "promise 15";
+        says("promise 15");
         RoundedNumbers x = withAllKinds(3);
         int[] want = {0, 1, -1, 1, -1, 1, -1};
         for (int r = 0; r < 7; r++) {
@@ -696,7 +634,7 @@ public final class PromisesTest {
     }
 
     private static void expOf() {
-        promise = "promise 16";
+        says("promise 16");
         RoundedNumbers x = withAllKinds(3);
         int[] want = {0, 0, 0, 0, 0, 2, 2};
         for (int r = 0; r < 7; r++) {
@@ -716,7 +654,7 @@ public final class PromisesTest {
     }
 
     private static void mantBit() {
-        promise = "promise 17";
+        says("promise 17");
         RoundedNumbers x = withAllKinds(93);
         x.loadScaled(7, 0x5555555555555555L, 7, NEAREST);
         for (int i = 0; i < 93; i++) {
@@ -745,16 +683,15 @@ public final class PromisesTest {
         RoundedNumbers x = new RoundedNumbers(93);
         x.loadScaled(0, v, shift, NEAREST);
         x.loadScaled(1, -v, shift, NEAREST);
-        int[] mirror = {NEAREST, TO_ZERO, DOWN, UP, AWAY};
         for (int mode = 0; mode < 5; mode++) {
             String what = v + " * 2^" + shift + " in mode " + mode;
             due(what, x.whole(0, mode), want[mode]);
-            due("-" + what, x.whole(1, mode), -want[mirror[mode]]);
+            due("-" + what, x.whole(1, mode), -want[MIRRORED[mode]]);
         }
     }
 
     private static void whole() {
-        promise = "promise 18";
+        says("promise 18");
         wholes(6, 0, 6, 6, 6, 6, 6);
         wholes(5, -1, 2, 2, 3, 2, 3);
         wholes(7, -1, 4, 3, 4, 3, 4);
