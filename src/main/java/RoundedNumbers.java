@@ -497,7 +497,7 @@ public final class RoundedNumbers {
             int first = place / LIMB_BITS;
             long factor = (long) sign << place % LIMB_BITS;
             long carry = 0;
-            for (int i = first; i < EXACT_LIMBS; i++) {
+            for (int i = Math.max(0, first); i < EXACT_LIMBS; i++) {
                 int limb = i - first < x.limbs.length ? x.limbs[i - first] : 0;
                 carry += limbs[i] + factor * limb;
                 limbs[i] = (int) carry & LIMB_MASK;
@@ -508,7 +508,7 @@ public final class RoundedNumbers {
         void addPower(int weight, int sign) {
             int place = weight - LOWEST_WEIGHT;
             long carry = (long) sign << place % LIMB_BITS;
-            for (int i = place / LIMB_BITS; i < EXACT_LIMBS && carry != 0; i++) {
+            for (int i = Math.max(0, place / LIMB_BITS); i < EXACT_LIMBS && carry != 0; i++) {
                 carry += limbs[i];
                 limbs[i] = (int) carry & LIMB_MASK;
                 carry >>= LIMB_BITS;
@@ -546,7 +546,12 @@ public final class RoundedNumbers {
 
         int bit(int weight) {
             int place = weight - LOWEST_WEIGHT;
-            return limbs[place / LIMB_BITS] >> place % LIMB_BITS & 1;
+            return limb(place / LIMB_BITS) >> place % LIMB_BITS & 1;
+        }
+
+        /** A limb of the row; 0 beyond its ends. */
+        private int limb(int i) {
+            return i >= 0 && i < EXACT_LIMBS ? limbs[i] : 0;
         }
 
         boolean isAbovePower(int weight) {
@@ -556,26 +561,27 @@ public final class RoundedNumbers {
 
         private boolean hasBelow(int weight) {
             int place = weight - LOWEST_WEIGHT;
-            int last = place / LIMB_BITS;
-            for (int i = 0; i < last; i++) {
-                if (limbs[i] != 0) {
+            for (int i = 0; i < EXACT_LIMBS; i++) {
+                if ((limbs[i] & lowestBits(place - i * LIMB_BITS)) != 0) {
                     return true;
                 }
             }
-            return (limbs[last] & maskBelow(place)) != 0;
+            return false;
         }
 
         private void cutBelow(int weight) {
             int place = weight - LOWEST_WEIGHT;
-            int last = place / LIMB_BITS;
-            for (int i = 0; i < last; i++) {
-                limbs[i] = 0;
+            for (int i = 0; i < EXACT_LIMBS; i++) {
+                limbs[i] &= ~lowestBits(place - i * LIMB_BITS);
             }
-            limbs[last] &= ~maskBelow(place);
         }
 
-        private static int maskBelow(int place) {
-            return (1 << place % LIMB_BITS) - 1;
+        /** The mask of a limb's count lowest bits: of none below 0, of all when it has no more. */
+        private static int lowestBits(int count) {
+            if (count <= 0) {
+                return 0;
+            }
+            return count < LIMB_BITS ? (1 << count) - 1 : LIMB_MASK;
         }
 
         /**
@@ -612,7 +618,7 @@ public final class RoundedNumbers {
             int first = place / LIMB_BITS;
             int shift = place % LIMB_BITS;
             for (int i = 0; i < VALUE_LIMBS; i++) {
-                long pair = (long) limbs[first + i + 1] << LIMB_BITS | limbs[first + i];
+                long pair = (long) limb(first + i + 1) << LIMB_BITS | limb(first + i);
                 register.limbs[i] = (int) (pair >> shift) & LIMB_MASK;
             }
             register.low = low;

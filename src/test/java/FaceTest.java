@@ -5,7 +5,7 @@ import java.lang.reflect.Modifier;
 import java.util.Set;
 import java.util.TreeSet;
 
-/** The class shows the document's face and nothing else. */
+/** The class shows the document's face and nothing else, and has no static state. */
 public final class FaceTest {
     private static final Set<String> FACE = Set.of(
             "RoundedNumbers(int)",
@@ -37,16 +37,43 @@ public final class FaceTest {
         for (Method method : shown.getDeclaredMethods()) {
             String text = method.getReturnType() + " " + method.getName() + list(method.getParameterTypes());
             sort(method.getModifiers(), text, found, wrong);
+            if (!Modifier.isPublic(method.getModifiers()) && isShown(method.getName())) {
+                wrong.add("private " + text);
+            }
         }
         for (Field field : shown.getDeclaredFields()) {
             sort(field.getModifiers(), field.getName(), found, wrong);
         }
+        findStaticState(shown, wrong);
+        for (Class<?> inside : shown.getDeclaredClasses()) {
+            int modifiers = inside.getModifiers();
+            if (Modifier.isPublic(modifiers) || Modifier.isProtected(modifiers) || !Modifier.isStatic(modifiers)) {
+                wrong.add(inside.getName());
+            }
+            findStaticState(inside, wrong);
+        }
         int modifiers = shown.getModifiers();
         boolean right = found.equals(FACE) && wrong.isEmpty()
                 && Modifier.isPublic(modifiers) && Modifier.isFinal(modifiers);
-        System.out.println(right ? "the face is as due" : "public: " + found + ", neither public nor private: " + wrong);
+        System.out.println(right ? "the face is as due" : "public: " + found + ", not as due: " + wrong);
         if (!right) {
             System.exit(1);
+        }
+    }
+
+    /** LANGUAGE.md, rule 1: no private method bears the name of a public one. */
+    private static boolean isShown(String name) {
+        return FACE.stream().anyMatch(text -> text.contains(" " + name + "("));
+    }
+
+    /** LANGUAGE.md, rule 5: a static field is a constant. */
+    private static void findStaticState(Class<?> inspected, Set<String> wrong) {
+        for (Field field : inspected.getDeclaredFields()) {
+            int modifiers = field.getModifiers();
+            boolean constant = field.getType().isPrimitive() || field.getType() == String.class;
+            if (Modifier.isStatic(modifiers) && !(Modifier.isFinal(modifiers) && constant)) {
+                wrong.add("static " + inspected.getName() + "." + field.getName());
+            }
         }
     }
 
